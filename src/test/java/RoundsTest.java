@@ -1,0 +1,174 @@
+/** Promises 14 to 17: round, spoons, drawn, odds. */
+public final class RoundsTest {
+    private static final Check check = new Check("RoundsTest");
+
+    public static void main(String[] args) {
+        roundOfNone();
+        roundInTime();
+        roundOfMostWorth();
+        roundByOthers();
+        roundFromHere();
+        roundIsKeptUpToDate();
+        spoons();
+        spoonsBySwapping();
+        drawn();
+        odds();
+        check.finish();
+    }
+
+    private static void roundOfNone() {
+        LentCourage x = Check.port("o3;p3;");
+        check.dueRound("without DEEDS", x, 0, 0);
+        x.lends(0);
+        x.keeps(7);
+        check.dueRound("without DEEDS, later", x, 0, 7);
+        check.due("round(-4)", x.round(-4), -1);
+        check.due("round(8)", x.round(8), -1);
+        check.due("round at the least", x.round(Integer.MIN_VALUE), -1);
+        check.due("round at the most", x.round(Integer.MAX_VALUE), -1);
+    }
+
+    private static void roundInTime() {
+        check.dueRound("waits till FROM", Check.port("o0;p0;d0 0 20 30 1;"), 1, 20, 0);
+        check.dueRound("just by TILL", Check.port("o0;p0;d0 5 0 5 1;"), 1, 5, 0);
+        check.dueRound("behind TILL", Check.port("o0;p0;d0 6 0 5 1;"), 0, 0);
+        check.dueRound("first to WHO", Check.port("o5;p0;d0 6 0 99 1;"), 1, 11, 0);
+        check.dueRound("first to WHO, too late", Check.port("o5;p0;d0 6 0 10 1;"), 0, 0);
+    }
+
+    private static void roundOfMostWorth() {
+        check.dueRound("both, the sooner order",
+            Check.port("o0;p0;p10;d1 10 0 99 4;d0 5 0 99 3;"), 7, 10, 1, 0);
+        check.dueRound("of equal WORTH the sooner", Check.port("o0;p0;d0 5 0 9 4;d0 3 0 9 4;"), 4, 3, 1);
+        check.dueRound("of one hour the first", Check.port("o5;p5;d0 7 0 9 4;d0 3 0 9 4;"), 4, 2, 0);
+        check.dueRound("WORTH ahead of hours", Check.port("o0;p0;d0 0 0 9 4;d0 9 0 9 5;"), 5, 9, 1);
+        check.dueRound("one of more WORTH rather than two",
+            Check.port("o0;p0;p0;d0 1 0 2 4;d1 2 0 9 4;d0 9 9 9 9;"), 9, 9, 2);
+    }
+
+    private static void roundByOthers() {
+        check.dueRound("not the same one twice in a row",
+            Check.port("o0;p0;d0 0 0 9 3;d0 1 0 9 4;"), 4, 1, 1);
+        check.dueRound("but with another one between",
+            Check.port("o0;p0;p0;d0 0 0 9 3;d0 0 0 9 4;d1 0 0 9 1;"), 8, 0, 0, 2, 1);
+        check.dueRound("he stays where he did the one ahead",
+            Check.port("o10;p10;p20;d0 12 0 99 1;d1 20 0 99 1;d0 13 0 99 1;"), 3, 18, 2, 1, 0);
+    }
+
+    private static void roundFromHere() {
+        LentCourage x = Check.port("o0;p0;p9;d0 0 0 99 1;d0 2 0 99 5;");
+        x.lends(0);
+        check.dueRound("who HOLDS it FRESH", x, 5, 2, 1);
+        x.does(0);
+        check.dueRound("who HOLDS it, not FRESH", x, 0, 0);
+        x.brings();
+        check.dueRound("lent anew by the drawer", x, 5, 2, 1);
+        x.lends(0);
+        x.walks(1);
+        check.dueRound("from where he is", x, 5, 2, 1);
+        x.walks(30);
+        check.dueRound("from farther off", x, 5, 58, 1);
+        x.lends(0);
+        check.due("he HOLDS it already", x.now(3), 30);
+    }
+
+    private static void roundIsKeptUpToDate() {
+        LentCourage x = Check.port("o0;p0;p0;d0 0 0 1 3;d1 4 0 9 2;");
+        check.dueRound("at first", x, 5, 4, 0, 1);
+        x.keep(0);
+        x.lends(0);
+        x.keeps(2);
+        check.dueRound("later", x, 2, 6, 1);
+        x.undo();
+        check.dueRound("undone", x, 5, 4, 0, 1);
+        x.does(0);
+        check.dueRound("one DONE", x, 2, 4, 1);
+        x.back(0);
+        check.dueRound("back", x, 5, 4, 0, 1);
+        Check.read(x, "o1;p1;d0 1 0 0 8;");
+        check.dueRound("read anew", x, 8, 0, 0);
+    }
+
+    private static void dueSpoons(String text, int spoons) {
+        check.due("spoons of " + text, Check.port(text).spoons(), spoons);
+    }
+
+    private static void spoons() {
+        dueSpoons("", 0);
+        dueSpoons("p4;", 0);
+        dueSpoons("o0;p0;p0;d0 0 5 9 1;d1 0 5 9 1;", 1);
+        dueSpoons("o0;p0;d0 0 5 9 1;d0 0 6 9 1;", 2);
+        dueSpoons("o0;p0;p0;d0 5 5 9 1;d1 5 14 99 1;", 2);
+        dueSpoons("o0;p0;p0;d0 5 5 9 1;d1 5 15 99 1;", 1);
+        dueSpoons("o0;p0;p0;d0 5 15 99 1;d1 5 5 9 1;", 1);
+        dueSpoons("o0;p0;d0 5 4 9 1;", -9);
+        dueSpoons("o0;p0;d0 5 5 9 1;", 1);
+        dueSpoons("o5;p0;d0 5 9 9 1;", -9);
+        dueSpoons("o5;p0;d0 5 10 10 1;", 1);
+        dueSpoons("o0;p0;p0;p0;d0 0 0 0 1;d1 0 0 0 1;d2 0 0 0 1;d0 0 0 0 1;", 1);
+        LentCourage x = Check.port("o0;p0;d0 0 0 9 1;d0 0 6 9 1;");
+        x.lends(0);
+        x.does(0);
+        check.due("spoons for DONE ones, too", x.spoons(), 2);
+    }
+
+    private static void spoonsBySwapping() {
+        // DEED 0 goes to 2 or 3, DEED 1 to 2 alone: the first choice of 0 must give way.
+        dueSpoons("o0;p0;p0;d0 0 0 9 1;d0 5 5 9 1;d1 0 10 19 1;d1 0 9 19 1;", 2);
+    }
+
+    private static void drawn() {
+        check.due("drawn without DEEDS", new LentCourage().drawn(5, 20), 0);
+        LentCourage x = Check.port("o0;p0;p0;d0 0 0 9 7;d1 0 0 9 9;");
+        check.due("no LOTS", x.drawn(0, 0), 0);
+        check.due("74 of 2", x.drawn(0, 1), 7);
+        check.due("149 of 2", x.drawn(1, 1), 9);
+        check.due("28781 of 2", x.drawn(99999, 1), 9);
+        check.due("65537 is as 0", x.drawn(65537, 1), 7);
+        check.due("each once", x.drawn(1, 20), 16);
+        check.due("nothing is DONE", x.now(4), 0);
+        check.due("drawn(-1, 1)", x.drawn(-1, 1), -1);
+        check.due("drawn(100000, 1)", x.drawn(100000, 1), -1);
+        check.due("drawn(0, -1)", x.drawn(0, -1), -1);
+        check.due("drawn(0, 21)", x.drawn(0, 21), -1);
+        x.lends(0);
+        x.does(0);
+        check.due("DONE isn't drawn", x.drawn(0, 1), 0);
+        check.due("BAD without DEEDS, too", new LentCourage().drawn(0, 21), -1);
+        LentCourage same = Check.port("o0;p0;d0 0 0 9 7;d0 0 0 9 9;");
+        check.due("not the same one twice in a row", same.drawn(1, 20), 9);
+        check.due("too late", Check.port("o0;p0;d0 9 0 8 7;").drawn(1, 20), 0);
+    }
+
+    private static void dueOdds(LentCourage x, int tenths, int k, int upper, int lower) {
+        check.due("odds(" + tenths + ", " + k + ", 0)", x.odds(tenths, k, 0), upper);
+        check.due("odds(" + tenths + ", " + k + ", 1)", x.odds(tenths, k, 1), lower);
+    }
+
+    private static void odds() {
+        dueOdds(new LentCourage(), 10, 0, 1, 1);
+        LentCourage x = Check.port("o0;p0;d0 0 0 9 7;d0 0 0 9 9;");
+        dueOdds(x, 5, 0, 1, 4);
+        dueOdds(x, 5, 1, 3, 4);
+        dueOdds(x, 5, 2, 1, 1);
+        dueOdds(x, 4, 1, 21, 25);
+        dueOdds(x, 10, 1, 0, 1);
+        dueOdds(x, 10, 2, 1, 1);
+        dueOdds(x, 0, 0, 1, 1);
+        dueOdds(x, 3, 8, 1, 1);
+        x.lends(0);
+        x.does(0);
+        dueOdds(x, 3, 0, 7, 10);
+        LentCourage many = Check.port("p0;" + "d0 0 0 0 1;".repeat(8));
+        dueOdds(many, 1, 0, 43046721, 100000000);
+        dueOdds(many, 5, 0, 1, 256);
+        dueOdds(many, 5, 7, 255, 256);
+        dueOdds(many, 9, 7, 56953279, 100000000);
+        check.due("odds(-1, 0, 0)", x.odds(-1, 0, 0), -1);
+        check.due("odds(11, 0, 0)", x.odds(11, 0, 0), -1);
+        check.due("odds(0, -1, 0)", x.odds(0, -1, 0), -1);
+        check.due("odds(0, 9, 0)", x.odds(0, 9, 0), -1);
+        check.due("odds(0, 0, -1)", x.odds(0, 0, -1), -1);
+        check.due("odds(0, 0, 2)", x.odds(0, 0, 2), -1);
+    }
+}
