@@ -42,7 +42,6 @@ public final class LentCourage {
         for (int i = 0; i < IMAGES; i++) {
             images[i] = new Ledger();
         }
-        ledger.begin(port);
     }
 
     // ---- the port

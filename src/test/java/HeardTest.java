@@ -55,6 +55,10 @@ public final class HeardTest {
         check.due("in one hour, elsewhere", x.lies(), 2);
         x.hears(2, 70);
         check.due("behind the latest of that hour", x.lies(), 3);
+        x.forget();
+        x.hears(2, 10);
+        x.hears(0, 10);
+        check.due("the second of two", x.lies(), 1);
     }
 
     private static void hadByOne() {

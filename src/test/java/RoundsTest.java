@@ -101,7 +101,10 @@ public final class RoundsTest {
         dueSpoons("o0;p0;p0;d0 5 5 9 1;d1 5 14 99 1;", 2);
         dueSpoons("o0;p0;p0;d0 5 5 9 1;d1 5 15 99 1;", 1);
         dueSpoons("o0;p0;p0;d0 5 15 99 1;d1 5 5 9 1;", 1);
+        dueSpoons("o0;p0;p0;d0 0 5 9 1;d1 0 6 9 1;", 1);
         dueSpoons("o0;p0;d0 5 4 9 1;", -9);
+        dueSpoons("o9;p7;p12;d0 8 3 9 1;d1 11 8 9 1;", 1);
+        dueSpoons("o9;p7;p12;d0 8 3 9 1;d1 11 7 9 1;", 2);
         dueSpoons("o0;p0;d0 5 5 9 1;", 1);
         dueSpoons("o5;p0;d0 5 9 9 1;", -9);
         dueSpoons("o5;p0;d0 5 10 10 1;", 1);
@@ -115,6 +118,11 @@ public final class RoundsTest {
     private static void spoonsBySwapping() {
         // DEED 0 goes to 2 or 3, DEED 1 to 2 alone: the first choice of 0 must give way.
         dueSpoons("o0;p0;p0;d0 0 0 9 1;d0 5 5 9 1;d1 0 10 19 1;d1 0 9 19 1;", 2);
+        // All DEEDS of one hour and place by two in turn: one chain; by one of them mostly: more.
+        dueSpoons("o0;p0;p0;" + "d0 0 7 9 1;d1 0 7 9 1;".repeat(4), 1);
+        dueSpoons("o0;p0;p0;d1 0 0 9 1;" + "d0 0 7 9 1;".repeat(4), 4);
+        dueSpoons("o0;p0;p0;" + "d0 0 7 9 1;".repeat(4) + "d1 0 7 9 1;".repeat(4), 4);
+        dueSpoons("o0;p0;p0;" + "d0 0 7 9 1;".repeat(5) + "d1 0 7 9 1;".repeat(2), 5);
     }
 
     private static void drawn() {
@@ -126,6 +134,10 @@ public final class RoundsTest {
         check.due("28781 of 2", x.drawn(99999, 1), 9);
         check.due("65537 is as 0", x.drawn(65537, 1), 7);
         check.due("each once", x.drawn(1, 20), 16);
+        LentCourage more = Check.port("o0;p0;p0;p0;d0 0 0 9 1;d1 0 0 9 2;d2 0 0 9 4;d1 0 0 9 8;d2 0 0 9 16;");
+        for (int seed = 0; seed < 100; seed++) {
+            check.due("each of five once at most, by " + seed, more.drawn(seed, 20) <= 31 ? 1 : 0, 1);
+        }
         check.due("nothing is DONE", x.now(4), 0);
         check.due("drawn(-1, 1)", x.drawn(-1, 1), -1);
         check.due("drawn(100000, 1)", x.drawn(100000, 1), -1);
@@ -164,6 +176,8 @@ public final class RoundsTest {
         dueOdds(many, 5, 0, 1, 256);
         dueOdds(many, 5, 7, 255, 256);
         dueOdds(many, 9, 7, 56953279, 100000000);
+        check.due("odds(11, 1, 0) of many", many.odds(11, 1, 0), -1);
+        check.due("odds(-1, 1, 0) of many", many.odds(-1, 1, 0), -1);
         check.due("odds(-1, 0, 0)", x.odds(-1, 0, 0), -1);
         check.due("odds(11, 0, 0)", x.odds(11, 0, 0), -1);
         check.due("odds(0, -1, 0)", x.odds(0, -1, 0), -1);
