@@ -23,6 +23,8 @@ public final class HeardEdgesTest {
         hadBetweenTwo();
         hadOfOneHour();
         hadByBitsOfSix();
+        hadByHomeAlone();
+        heardWhateverIsDone();
         check.finish();
     }
 
@@ -226,5 +228,38 @@ public final class HeardEdgesTest {
         LentCourage far = Check.port("p0;p0;p0;p0;p0;p30;d5 30 0 9 1;");
         far.hears(0, 50);
         check.due("the sixth alone", far.had(50), 32);
+    }
+
+    // "each whose HOME can be come to": not where he is, nor in which HOUR that is asked
+    private static void hadByHomeAlone() {
+        LentCourage x = heard(2, 30);
+        x.lends(0);
+        x.walks(22);
+        check.due("he is there now, his HOME is not", x.had(30), 4);
+        check.due("22 apart from HOME, 21 hours", x.had(51), 6);
+        check.due("22 apart from HOME, 22 hours", x.had(52), 7);
+        x.walks(30);
+        x.keeps(20);
+        check.due("farther off, his HOME is not", x.had(52), 7);
+        check.due("ahead of it, by HOME too", x.had(8), 7);
+    }
+
+    // "WHO fears it" does it: who HELD the spoon in truth, and what is UNDONE, is all one
+    private static void heardWhateverIsDone() {
+        LentCourage x = Check.port("o5;p5;p5;d0 5 0 9 1;d1 9 0 99 1;");
+        x.hears(1, 4);
+        x.hears(0, 0);
+        x.keep(0);
+        x.lends(0);
+        x.does(0);
+        x.keeps(1);
+        check.due("in the hour of the first", x.had(0), 3);
+        check.due("between them", x.had(2), 1 + 2);
+        check.due("no LIES", x.lies(), 0);
+        x.undo();
+        x.undo();
+        x.back(0);
+        check.due("none forgotten", x.count(4), 2);
+        check.due("between them still", x.had(2), 1 + 2);
     }
 }

@@ -25,12 +25,16 @@ public final class RoundsEdgesTest {
         spoonsOfOneFrom();
         spoonsOfUnlikeWho();
         spoonsOfTheDoneToo();
+        spoonsFromHomeAgain();
         numbersOfDrawn();
         drawnOfNone();
         drawnByLots();
         drawnTwentyTimes();
         drawnOfAllDeeds();
         drawnOnAWay();
+        drawnOneBehindAnother();
+        drawnAgainWhenItCanBe();
+        drawnFromNow();
         numbersOfOdds();
         oddsOfNone();
         oddsOfNoFailureAndOfAll();
@@ -256,6 +260,14 @@ public final class RoundsEdgesTest {
         check.due("all is later and elsewhere", x.spoons(), 2);
     }
 
+    // "everybody at HOME till the DEED he does, and then again": not where he did the one ahead
+    private static void spoonsFromHomeAgain() {
+        check.dueSpoons("o0;p0;p0;d0 9 9 99 1;d1 9 27 99 1;d0 9 45 99 1;", 1);
+        check.dueSpoons("o0;p0;p0;d0 9 9 99 1;d1 9 27 99 1;d0 9 44 99 1;", 2);
+        check.dueSpoons("o0;p9;p0;d0 0 18 99 1;d1 0 18 99 1;d0 0 36 99 1;", 1);
+        check.dueSpoons("o0;p9;p0;d0 0 18 99 1;d1 0 18 99 1;d0 0 35 99 1;", 2);
+    }
+
     // "a SEED (0 .. 99999)"; "n (0 .. 20)"; drawn: "BAD"
     private static void numbersOfDrawn() {
         LentCourage x = Check.port("o0;p0;d0 0 0 9 7;");
@@ -345,6 +357,60 @@ public final class RoundsEdgesTest {
         check.due("who HOLDS it, not FRESH", x.drawn(1, 20), 0);
         x.lends(1);
         check.due("another one HOLDS it", x.drawn(1, 20), 9);
+    }
+
+    /** WORTH of the row that is drawn when the first LOTS are these. */
+    private static int drawnBy(LentCourage x, int... lots) {
+        int deeds = x.count(1);
+        for (int seed = 0; seed < 100000; seed++) {
+            long drawn = seed;
+            int like = 0;
+            for (; like < lots.length; like++) {
+                drawn = (drawn * 75 + 74) % 65537;
+                if (drawn % deeds != lots[like]) {
+                    break;
+                }
+            }
+            if (like == lots.length) {
+                return x.drawn(seed, lots.length);
+            }
+        }
+        throw new IllegalArgumentException("no SEED draws these");
+    }
+
+    // "the next one on a WAY": from where the one ahead was done, in the hour when it was
+    private static void drawnOneBehindAnother() {
+        LentCourage waits = Check.port("o0;p0;p0;d0 0 6 6 1;d1 0 0 5 2;");
+        check.due("behind one that is waited for", drawnBy(waits, 0, 1), 1);
+        check.due("ahead of one that is waited for", drawnBy(waits, 1, 0), 3);
+        LentCourage walks = Check.port("o0;p0;p9;d0 9 0 9 1;d1 9 9 9 2;d0 8 10 10 4;");
+        check.due("to where he is by then", drawnBy(walks, 0, 1, 2), 7);
+        check.due("he is still at HOME", drawnBy(walks, 1, 2, 0), 2);
+        LentCourage goes = Check.port("o0;p0;p0;d0 5 0 5 1;d1 5 0 15 2;");
+        check.due("the spoon goes back to another one", drawnBy(goes, 0, 1), 3);
+        LentCourage late = Check.port("o0;p0;p0;d0 5 0 5 1;d1 5 0 14 2;");
+        check.due("the spoon comes an hour too late", drawnBy(late, 0, 1), 1);
+    }
+
+    // "if it .. can be the next one on a WAY, it is": what was passed over may be drawn later
+    private static void drawnAgainWhenItCanBe() {
+        LentCourage x = Check.port("o0;p0;p0;d0 0 0 9 1;d0 0 0 9 2;d1 0 0 9 4;");
+        check.due("passed over", drawnBy(x, 0, 1, 2), 5);
+        check.due("drawn again", drawnBy(x, 0, 1, 2, 1), 7);
+        check.due("of this row already", drawnBy(x, 0, 2, 0), 5);
+    }
+
+    private static void drawnFromNow() {
+        LentCourage x = Check.port("o0;p0;p9;d0 0 0 20 1;d1 9 0 20 2;");
+        x.lends(0);
+        x.walks(9);
+        check.due("from where he is", drawnBy(x, 0), 1);
+        x.keeps(2);
+        check.due("in the hour TILL", drawnBy(x, 0), 1);
+        x.keeps(1);
+        check.due("too late by then", drawnBy(x, 0, 1), 2);
+        x.undo();
+        check.due("UNDONE", drawnBy(x, 0), 1);
     }
 
     // "x (0 .. 10), k (0 .. 8)"; odds: "upper (what = 0), lower number (1)"; "BAD"

@@ -25,6 +25,9 @@ public final class RulesTest {
         "\\.(toString|hashCode|equals|getClass)\\(", "\\bstatic\\s*\\{"
     };
 
+    // All calls of a run live in one room, so no call makes an object: only fields and rows do.
+    private static final String MADE_ONCE = "\\s+((private )?final .*|(images|past)\\[i\\]) = new .*;";
+
     public static void main(String[] args) throws IOException {
         face();
         members();
@@ -63,6 +66,7 @@ public final class RulesTest {
             int mode = f.getModifiers();
             if (Modifier.isPublic(mode)) {
                 found.add(f.getName());
+                dueTrue(f + " is a static int", Modifier.isStatic(mode) && f.getType() == int.class);
             }
             dueTrue(f + " is public or private", Modifier.isPublic(mode) || Modifier.isPrivate(mode));
             dueTrue(f + " is final if static", Modifier.isFinal(mode) || !Modifier.isStatic(mode));
@@ -96,6 +100,10 @@ public final class RulesTest {
             dueTrue("no " + word, !m.find());
         }
         dueTrue("signs 1 to 127", file.chars().allMatch(c -> c > 0 && c < 128));
+        dueTrue("one file, one class at the top", Pattern.compile("(?m)^\\S.*\\b(class|record|enum|interface)\\b")
+            .matcher(code).results().count() == 1);
+        code.lines().filter(line -> line.matches(".*\\bnew\\b.*")).forEach(line ->
+            dueTrue("made in constructors alone: " + line, line.matches(MADE_ONCE)));
         shortMethods(code);
     }
 

@@ -37,6 +37,8 @@ public final class TextEdgesTest {
         nothingToldAtAll();
         textIsEmptyBehindAGoodPort();
         textStaysBehindAFault();
+        textTypedInParts();
+        itemsInAnyOrder();
         check.finish();
     }
 
@@ -402,5 +404,47 @@ public final class TextEdgesTest {
         check.due("PEOPLE", x.count(0), 1);
         check.due("HOME still", x.one(0, 0), 5);
         check.due("all of its bytes", x.clear(), 16);
+    }
+
+    // port: "THE TEXT tells all": nothing is told till then, and no other call comes to THE TEXT
+    private static void textTypedInParts() {
+        LentCourage x = Check.port("o5;p5;d0 5 0 9 4;");
+        Check.type(x, "o7;p");
+        check.due("OFFICE is as told ahead", x.count(2), 5);
+        check.due("lends(0)", x.lends(0), 0);
+        check.due("does(0)", x.does(0), 4);
+        x.type(-1);
+        x.type(256);
+        Check.type(x, "2");
+        x.hears(0, 3);
+        x.keep(0);
+        x.undo();
+        x.back(0);
+        x.mark(1, 0);
+        Check.type(x, "9;");
+        check.due("all of its bytes", x.count(6), 7);
+        check.due("HOME is as told ahead", x.one(0, 0), 5);
+        check.due("port()", x.port(), 2);
+        check.due("OFFICE", x.count(2), 7);
+        check.due("HOME", x.one(0, 0), 29);
+        check.due("no DEEDS any more", x.count(1), 0);
+    }
+
+    // "p H (the next of PEOPLE) ; d W X F T V (the next DEED ..": numbered as they are told
+    private static void itemsInAnyOrder() {
+        LentCourage x = told("p3;d0 1 2 3 4;f5;p6;d1 7 8 9 10;o11;d0 12 13 14 15;p16;", 8);
+        int[] homes = {3, 6, 16};
+        for (int p = 0; p < homes.length; p++) {
+            check.due("HOME of " + p, x.one(p, 0), homes[p]);
+            check.due("at HOME is " + p, x.one(p, 1), homes[p]);
+        }
+        int[][] deeds = {{0, 1, 2, 3, 4, 0}, {1, 7, 8, 9, 10, 0}, {0, 12, 13, 14, 15, 0}};
+        for (int d = 0; d < deeds.length; d++) {
+            for (int what = 0; what < 6; what++) {
+                check.due("deed(" + d + ", " + what + ")", x.deed(d, what), deeds[d][what]);
+            }
+        }
+        check.due("OFFICE", x.count(2), 11);
+        check.due("FREE", x.count(3), 5);
     }
 }
